@@ -726,7 +726,7 @@ public final class HymnPage {
 
         /** Next below a pitch that is not in the key there is always one that is. */
         private static int written(int tonic, int pitch) {
-            return isRaised(tonic, pitch) ? pitch - 1 : pitch;
+            return degreeInKey(tonic, pitch) == NONE ? pitch - 1 : pitch;
         }
 
         private static int degreeOf(int tonic, int pitch) {
@@ -744,7 +744,7 @@ public final class HymnPage {
             return NONE;
         }
 
-        /** A pitch is up to 2 below its letter, over the bound of an octave too: hence the 2. */
+        /** A pitch may lie below its letter, in another octave than it: hence the 2 added. */
         private static int stepOf(int tonic, int pitch) {
             int letter = (at(TONIC_LETTERS, tonic) + degreeOf(tonic, pitch)) % LETTERS;
             int octave = Math.floorDiv(written(tonic, pitch) - at(MAJOR, letter) + 2, 12);

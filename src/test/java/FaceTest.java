@@ -12,15 +12,37 @@ import java.util.TreeSet;
 public final class FaceTest {
 
     private static final List<String> FACE = List.of(
-            "int begin(int)", "int addNote(int,int,int,int,int)", "int dropNote()",
-            "int setPitch(int,int,int)", "int mark(int,boolean,boolean)", "int setBars(int,int)",
-            "int repeat(int,int,int)", "int clearRepeats()", "int transpose(int)",
-            "int setWidth(int)", "int append(int)", "int clearInput()", "int firstError(boolean)",
-            "int setLine(int,int)", "int clearVerse(int)", "int addMetre()", "int dropMetre(int)",
-            "int note(int,int)", "int part(int,int,int)", "int heads(int,int)",
-            "int phrase(int,int)", "int sung(int)", "int fit(int)", "int line(int,int,int)",
-            "int below(int,int,int,int)", "int distance(int)", "int nearest()",
-            "int metre(int,int)", "int count(int)", "double meanWidth()", "long digest()");
+            "int begin(int) throws Argument",
+            "int addNote(int,int,int,int,int) throws Argument, State",
+            "int dropNote() throws State",
+            "int setPitch(int,int,int) throws Index, Argument",
+            "int mark(int,boolean,boolean) throws Index",
+            "int setBars(int,int) throws Argument",
+            "int repeat(int,int,int) throws Index, Argument, State",
+            "int clearRepeats()",
+            "int transpose(int) throws Argument, State",
+            "int setWidth(int) throws Argument",
+            "int append(int) throws Argument, State",
+            "int clearInput()",
+            "int firstError(boolean)",
+            "int setLine(int,int) throws Index, Argument",
+            "int clearVerse(int) throws Index",
+            "int addMetre() throws Argument, State",
+            "int dropMetre(int) throws Index",
+            "int note(int,int) throws Index, Argument",
+            "int part(int,int,int) throws Index, Argument",
+            "int heads(int,int) throws Index",
+            "int phrase(int,int) throws Index, Argument",
+            "int sung(int) throws Index",
+            "int fit(int) throws Index",
+            "int line(int,int,int) throws Index, Argument",
+            "int below(int,int,int,int) throws Index, Argument",
+            "int distance(int) throws Index",
+            "int nearest()",
+            "int metre(int,int) throws Index",
+            "int count(int) throws Argument",
+            "double meanWidth()",
+            "long digest()");
 
     public static void main(String[] args) {
         methods();
@@ -36,7 +58,16 @@ public final class FaceTest {
         for (int i = 0; i < types.length; i++) {
             text.append(i == 0 ? "" : ",").append(types[i]);
         }
-        return text.append(')').toString();
+        text.append(')');
+        Class<?>[] thrown = method.getExceptionTypes();
+        for (int i = 0; i < thrown.length; i++) {
+            String name = thrown[i].getSimpleName();
+            text.append(i == 0 ? " throws " : ", ");
+            text.append(name.equals("IndexOutOfBoundsException") ? "Index"
+                    : name.equals("IllegalArgumentException") ? "Argument"
+                    : name.equals("IllegalStateException") ? "State" : name);
+        }
+        return text.toString();
     }
 
     private static void methods() {

@@ -147,6 +147,9 @@ public final class InputTest {
         Check.row("doubled", new long[] {8, 6, 20, 8, 6, 20, -1}, i -> page.metre(0, i));
         Check.same("addMetre", 1, Check.addMetre(page, "10"));
         Check.row("alone", new long[] {10, -1}, i -> page.metre(1, i));
+        page.dropMetre(1);
+        Check.same("addMetre", 1, Check.addMetre(page, "2.1"));
+        Check.row("with a 1", new long[] {2, 1, -1}, i -> page.metre(1, i));
         Check.same("24", 2, Check.addMetre(page, "1.1.1.1.1.1.1.1.1.1.1.1.1.1.1.1.1.1.1.1.1.1.1.12"));
         Check.same("its last one", 12, page.metre(2, 23));
         Check.same("24", 3, Check.addMetre(page, "1.2.3.4.5.6.7.8.9.10.11.12.D"));

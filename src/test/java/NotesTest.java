@@ -88,7 +88,11 @@ public final class NotesTest {
         Check.same("0 and 1 up", 1, parallel(apart, new int[] {74, 67, 61, 39}));
         Check.same("0 and 1 down", 1, parallel(apart, new int[] {71, 64, 61, 39}));
         Check.same("0 and 1 stay", 0, parallel(apart, apart));
-        Check.same("one stays", 0, parallel(new int[] {72, 60, 61, 39}, new int[] {84, 60, 61, 39}));
+        int[] octave = {72, 60, 61, 39};
+        Check.same("the lower one stays", 0, parallel(octave, new int[] {84, 60, 61, 39}));
+        Check.same("the lower one stays", 0, parallel(octave, new int[] {60, 60, 61, 39}));
+        Check.same("the upper one stays", 0, parallel(octave, new int[] {72, 72, 61, 39}));
+        Check.same("the upper one stays", 0, parallel(octave, new int[] {72, 48, 61, 39}));
         Check.same("from 7 to 19", 1, parallel(apart, new int[] {79, 60 + 12, 61, 39}));
         Check.same("against each other", 0, parallel(apart, new int[] {79, 60, 61, 39}));
         Check.same("7 to 0", 0, parallel(apart, new int[] {74, 74, 61, 39}));

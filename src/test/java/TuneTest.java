@@ -37,14 +37,16 @@ public final class TuneTest {
         page.setBars(6, 5);
         page.setWidth(33);
         page.transpose(3);
-        Check.setLine(page, 2, 7, "a-men");
+        for (int verse = 0; verse < 4; verse++) {
+            Check.setLine(page, verse, 7, "a-men");
+        }
         Check.addMetre(page, "8.6.8.6");
         Check.type(page, "xy");
         Check.fails("begin(-1)", page, Check.ARGUMENT, () -> page.begin(-1));
         Check.fails("begin(12)", page, Check.ARGUMENT, () -> page.begin(12));
         Check.same("begin(11)", 5, page.begin(11));
         Check.row("count begun", new long[] {0, 11, 0, 0, 0, 4, 0, 0, 1, 80, 0, 1, 15, 0}, page::count);
-        Check.same("line gone", 0, page.line(2, 7, 0));
+        Check.row("line gone", new long[4], verse -> page.line(verse, 7, 0));
         Check.same("metre stays", 6, page.metre(0, 3));
         Check.same("buffer stays", 2, page.clearInput());
         Check.same("begin(0)", 0, page.begin(0));
@@ -66,8 +68,9 @@ public final class TuneTest {
         Check.same("length", 8, page.note(0, 0));
         Check.row("pitch", new long[] {84, 70, 50, 36}, part -> page.part(0, part, 0));
         for (int i = 1; i < 40; i++) {
-            Check.same("addNote", i, page.addNote(1, 60, 60, 60, 60));
+            Check.same("addNote", i, page.addNote(1, 60, 61, 62, 36 + i));
         }
+        Check.row("last pitches", new long[] {60, 61, 62, 75}, part -> page.part(39, part, 0));
         Check.fails("a 41st note", page, Check.STATE, () -> page.addNote(1, 60, 60, 60, 60));
         Check.fails("a bad 41st", page, Check.ARGUMENT, () -> page.addNote(1, 60, 60, 60, 0));
         Check.same("40 notes", 40, page.count(0));

@@ -11,6 +11,8 @@ public final class VersesTest {
         line();
         below();
         belowWithoutLines();
+        longLines();
+        eightySungPhrases();
         Check.end("VersesTest");
     }
 
@@ -146,5 +148,30 @@ public final class VersesTest {
         Check.setLine(page, 0, 0, "a-a");
         Check.setLine(page, 0, 0, "b");
         Check.row("the old line is gone", new long[] {-1, -1, -1, -1}, what -> page.below(0, 0, 1, what));
+    }
+
+    private static void longLines() {
+        HymnPage page = Check.withPhrases(30);
+        page.repeat(0, 0, 0);
+        String first = "a-b-c-d-e-f-g-h-i-j-k-l-m-n-o-p-q-r-s-t-u-v-w-x-y-z-A-B-C-D";
+        Check.same("setLine", 30, Check.setLine(page, 0, 0, first));
+        Check.same("setLine", 30, Check.setLine(page, 0, 1, first.toUpperCase().replace('-', ' ')));
+        for (int i = 0; i < 30; i++) {
+            Check.same("sign of the first time", first.charAt(2 * i), page.below(0, 0, i, 2));
+            Check.same("link of the first time", i < 29 ? 1 : 0, page.below(0, 0, i, 3));
+            Check.same("sign of the second time", first.toUpperCase().charAt(2 * i), page.below(0, 1, i, 2));
+            Check.same("link of the second time", 0, page.below(0, 1, i, 3));
+        }
+    }
+
+    private static void eightySungPhrases() {
+        HymnPage page = Check.withPhrases(new int[] {
+            1, 1, 1, 1, 1, 1, 1, 1, 1, 1, 1, 1, 1, 1, 1, 1, 1, 1, 1, 1,
+            1, 1, 1, 1, 1, 1, 1, 1, 1, 1, 1, 1, 1, 1, 1, 1, 1, 1, 1, 1});
+        Check.same("repeat", 80, page.repeat(0, 39, 0));
+        for (int number = 0; number < 80; number++) {
+            Check.same("sung", number % 40, page.sung(number));
+        }
+        Check.same("times", 2, page.phrase(39, 5));
     }
 }
