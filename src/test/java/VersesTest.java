@@ -94,12 +94,15 @@ public final class VersesTest {
             page.mark(i, true, true);
             Check.setLine(page, 0, i, "la");
         }
+        // What the next verse has must not be taken for a line 24.
+        Check.setLine(page, 1, 0, "graces all");
         Check.same("24 lines", -1, page.fit(0));
         page.addNote(1, 60, 60, 60, 60);
         Check.same("25 phrases", 24, page.fit(0));
         Check.same("an empty verse", 0, page.fit(2));
         Check.same("the mask", 0, page.count(12));
         Check.same("below the 25th", -1, page.below(0, 24, 0, 1));
+        Check.same("column of the 25th", 3, page.note(24, 7));
         page.repeat(0, 24, 0);
         Check.same("50 phrases", 24, page.fit(0));
         Check.same("below the 50th", -1, page.below(3, 49, 0, 1));
