@@ -53,6 +53,34 @@ final class Check {
         }
     }
 
+    /** How a page is brought to where a test needs it; each page that it makes is a new one. */
+    interface Recipe {
+        HymnPage page();
+    }
+
+    interface Use {
+        long of(HymnPage page);
+    }
+
+    /**
+     * The call must throw just this exception on such a page, and the page must answer all that
+     * may be asked as one does that the call was never made on.
+     */
+    static void refused(String what, Class<? extends RuntimeException> due, Recipe recipe, Use call) {
+        HymnPage page = recipe.page();
+        try {
+            long got = call.of(page);
+            fault(what + " answered " + got + ", due is " + due.getName());
+        } catch (RuntimeException e) {
+            if (e.getClass() != due) {
+                fault(what + " threw " + e + ", due is " + due.getName());
+            }
+        }
+        if (!Whole.of(page).equals(Whole.of(recipe.page()))) {
+            fault(what + " changed the page");
+        }
+    }
+
     static void fault(String text) {
         wrong++;
         System.out.println(text);

@@ -1,10 +1,15 @@
-/** Long runs of calls, drawn by a fixed sequence of numbers: HymnPage must answer as PlainPage does. */
+/**
+ * Long runs of calls, drawn by a fixed sequence of numbers: HymnPage must answer as PlainPage does.
+ * A run ends with the 512th call on its page; what later ones answer is free.
+ */
 public final class RunsTest {
 
-    private static final int RUNS = 60;
+    private static final int RUNS = 600;
     private static final int CALLS = 512;
+    private static final int BELOWS = 20;
 
     private long seed;
+    private int calls = 0;
     private final HymnPage page = new HymnPage();
     private final PlainPage plain = new PlainPage();
 
@@ -15,7 +20,8 @@ public final class RunsTest {
     public static void main(String[] args) {
         for (int run = 0; run < RUNS; run++) {
             RunsTest test = new RunsTest(run);
-            for (int i = 0; i < CALLS; i++) {
+            test.begin(run);
+            for (int i = 0; test.calls < CALLS; i++) {
                 test.oneCall(run, i);
             }
         }
@@ -50,7 +56,22 @@ public final class RunsTest {
         return (int) plain.count(what);
     }
 
+    /** Some runs begin with many notes and marks, so that full tunes come up in them as well. */
+    private void begin(int run) {
+        String call = "run " + run + ", at first, ";
+        for (int notes = draw(45); notes > 0; notes--) {
+            addNote(call);
+        }
+        for (int marks = draw(60); marks > 0; marks--) {
+            mark(call);
+        }
+    }
+
     private void same(String call, long due, Check.Call got) {
+        if (calls == CALLS) {
+            return;
+        }
+        calls++;
         long answer;
         try {
             answer = got.answer();
@@ -85,10 +106,7 @@ public final class RunsTest {
         } else if (kind < 100) {
             same(call + "dropNote", plain.dropNote(), page::dropNote);
         } else if (kind < 130) {
-            int note = index(size(0));
-            boolean end = draw(3) > 0;
-            boolean on = draw(4) > 0;
-            same(call + "mark", plain.mark(note, end, on), () -> page.mark(note, end, on));
+            mark(call);
         } else if (kind < 160) {
             int first = index(size(2));
             int last = draw(3) == 0 ? index(size(2)) : first + draw(3);
@@ -97,6 +115,13 @@ public final class RunsTest {
         } else {
             changeMore(call, kind - 160);
         }
+    }
+
+    private void mark(String call) {
+        int note = index(size(0));
+        boolean end = draw(3) > 0;
+        boolean on = draw(4) > 0;
+        same(call + "mark", plain.mark(note, end, on), () -> page.mark(note, end, on));
     }
 
     private void addNote(String call) {
@@ -228,23 +253,20 @@ public final class RunsTest {
             case 8: same(call + "nearest", plain.nearest(), page::nearest); break;
             case 9: same(call + "metre", plain.metre(metre, far), () -> page.metre(metre, far)); break;
             case 10: same(call + "count", plain.count(far), () -> page.count(far)); break;
-            default: allBelow(call);
+            default: someBelow(call);
         }
-        Check.same(call + "meanWidth", plain.meanWidth(), page.meanWidth());
+        same(call + "meanWidth", Double.doubleToLongBits(plain.meanWidth()),
+                () -> Double.doubleToLongBits(page.meanWidth()));
     }
 
-    private void allBelow(String call) {
+    private void someBelow(String call) {
         int number = index(size(3));
-        for (int verse = -1; verse <= 4; verse++) {
-            for (int place = -1; place < 5; place++) {
-                for (int what = -1; what <= 4; what++) {
-                    int v = verse;
-                    int p = place;
-                    int w = what;
-                    same(call + "below " + v + " " + number + " " + p + " " + w, plain.below(v, number, p, w),
-                            () -> page.below(v, number, p, w));
-                }
-            }
+        for (int i = 0; i < BELOWS; i++) {
+            int verse = draw(40) == 0 ? index(4) : draw(4);
+            int place = draw(7) - 1;
+            int what = draw(40) == 0 ? index(4) : draw(4);
+            same(call + "below " + verse + " " + number + " " + place + " " + what,
+                    plain.below(verse, number, place, what), () -> page.below(verse, number, place, what));
         }
     }
 }
